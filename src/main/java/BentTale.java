@@ -4,6 +4,8 @@ public final class BentTale {
 
     private static final int ROOMS = 7;
     private static final int PERSONS = 4;
+    private static final int ALL_PERSONS = 15;
+    private static final int ALL_FOLK = 14;
     private static final int THINGS = 5;
     private static final int TURNS = 60;
     private static final int WISHES = 3;
@@ -265,14 +267,14 @@ public final class BentTale {
     }
 
     public int otherwise(int t) {
-        return t < 1 || t > now.turn ? NONE : chronicle.changedWithout(spare, t);
+        return t < 1 || t > now.turn ? NONE : chronicle.replay(spare, t, 0, ALL_FOLK);
     }
 
     public int needless(int p) {
         if (!begun || !isFolk(p)) {
             return NONE;
         }
-        return chronicle.sameWithoutFolk(spare, p) ? 1 : 0;
+        return chronicle.replay(spare, 0, p, ALL_PERSONS & ~(1 << p)) == 0 ? 1 : 0;
     }
 
     public int made(int sort, int seed, int turns, int what) {
@@ -524,11 +526,11 @@ public final class BentTale {
 
         /** A digit up to the greatest that may stand here; NONE with a fault behind it. */
         private int digit(int greatest) {
-            if (!isDigit()) {
+            int digit = sign() - '0';
+            if (digit < 0 || digit > 9) {
                 fail(1);
                 return NONE;
             }
-            int digit = sign() - '0';
             if (digit > greatest) {
                 fail(3);
                 return NONE;
@@ -603,35 +605,38 @@ public final class BentTale {
         }
 
         private boolean atom(int letter) {
+            int sort;
+            int greatestA = THINGS - 1;
+            int greatestB = NONE;
             switch (letter) {
                 case 'h':
-                    return one(Wishes.HAS, THINGS - 1);
+                    sort = Wishes.HAS;
+                    break;
                 case 'i':
-                    return one(Wishes.IS_IN, ROOMS - 1);
+                    sort = Wishes.IS_IN;
+                    greatestA = ROOMS - 1;
+                    break;
                 case 'd':
-                    return one(Wishes.IS_DEAD, PERSONS - 1);
+                    sort = Wishes.IS_DEAD;
+                    greatestA = PERSONS - 1;
+                    break;
                 case 'l':
-                    return two(Wishes.LIES, THINGS - 1, ROOMS - 1);
+                    sort = Wishes.LIES;
+                    greatestB = ROOMS - 1;
+                    break;
                 case 'o':
-                    return two(Wishes.OWNS, PERSONS - 1, THINGS - 1);
+                    sort = Wishes.OWNS;
+                    greatestA = PERSONS - 1;
+                    greatestB = THINGS - 1;
+                    break;
                 default:
                     return tape.fail(1);
             }
-        }
-
-        private boolean one(int sort, int greatest) {
-            tape.at++;
-            int a = tape.digit(greatest);
-            emit(sort, a, 0);
-            return a != NONE;
-        }
-
-        private boolean two(int sort, int greatestA, int greatestB) {
             tape.at++;
             int a = tape.digit(greatestA);
-            int b = a == NONE ? NONE : tape.digit(greatestB);
+            int b = a == NONE || greatestB == NONE ? 0 : tape.digit(greatestB);
             emit(sort, a, b);
-            return b != NONE;
+            return a != NONE && b != NONE;
         }
 
         private void emit(int sort, int a, int b) {
@@ -1383,7 +1388,7 @@ public final class BentTale {
                     if (slot(w.truth, PERSONS + x) == HIDDEN && (w.setOf(x) >> room & 1) != 0) {
                         w.sets &= ~(1L << ROOMS * x + room);
                         if (Integer.bitCount(w.setOf(x)) == 1) {
-                            int last = Integer.numberOfTrailingZeros(w.setOf(x));
+                            int last = Integer.bitCount(w.setOf(x) - 1);
                             w.truth = with(w.truth, PERSONS + x, last + 1);
                         }
                     }
@@ -1412,7 +1417,7 @@ public final class BentTale {
         }
 
         private static boolean isHeldIn(World w, int place, int room) {
-            return place >= HELD && place < HELD + PERSONS && slot(w.truth, place - HELD) == room;
+            return place >= HELD && place < HELD + PERSONS && ((int) (w.truth >>> 4 * (place - HELD)) & 15) == room;
         }
 
         /** Tries a made stranger: the turn behind which a law is broken first, 0 if one is already, else NONE. */
@@ -1599,14 +1604,6 @@ public final class BentTale {
 
         private int entryOf(int t, int p) {
             return t >= 1 && t <= TURNS && isPerson(p) ? entries[t * PERSONS + p] : DID_NOTHING;
-        }
-
-        private int changedWithout(World w, int t) {
-            return replay(w, t, 0, 14);
-        }
-
-        private boolean sameWithoutFolk(World w, int p) {
-            return replay(w, 0, p, 15 & ~(1 << p)) == 0;
         }
 
         // How many deeds of the persons that are counted (by bits) change.
