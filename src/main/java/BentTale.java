@@ -1516,7 +1516,7 @@ public final class BentTale {
             play.lookAbout(w);
         }
 
-        /** The answer: the first by price and number of the acts by which the laws can be kept; 0 for none is needed. */
+        /** The answer: the first, by price and number, of the acts by which the laws can be kept; 0 for none. */
         private int firstAct(World w, int turns) {
             if (w.brokenLaws > 0 || turns < 0 || turns > AHEAD) {
                 return NONE;

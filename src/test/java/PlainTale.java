@@ -458,7 +458,7 @@ final class PlainTale {
         return can;
     }
 
-    /** The events that would come if the tale began now, hidden things lay where folk seek them, and the stranger waited. */
+    /** The events that would come if the tale began now, hidden things lay where sought, and the stranger waited. */
     List<Event> forecast(int turns) {
         State s = now.copy();
         for (int p = 1; p < 4; p++) {
