@@ -596,12 +596,17 @@ public final class BentTale {
                 return tape.fail(5);
             }
             tape.at++;
-            if (sign == '!') {
-                boolean read = piece(open + 1);
-                emit(Wishes.NOT, 0, 0);
-                return read;
-            }
-            return oneOf(open + 1) && (tape.skipIf(')') || tape.fail(1));
+            return sign == '!' ? negated(open + 1) : bracketed(open + 1);
+        }
+
+        private boolean negated(int open) {
+            boolean read = piece(open);
+            emit(Wishes.NOT, 0, 0);
+            return read;
+        }
+
+        private boolean bracketed(int open) {
+            return oneOf(open) && (tape.skipIf(')') || tape.fail(1));
         }
 
         private boolean atom(int letter) {
@@ -1160,7 +1165,7 @@ public final class BentTale {
                 int cheapest = stage.cheapest();
                 // Short rows first: what they cost keeps the search among longer ones small.
                 for (limit = 1; limit <= DEEDS && limit * cheapest < bestCost; limit++) {
-                    extend(mind, 0, 0, 0);
+                    extend(this, mind, 0, 0, 0);
                 }
             }
             keys[place] = key;
@@ -1169,29 +1174,30 @@ public final class BentTale {
         }
 
         // Rows come in ascending order, so that of those of like cost the least is found first and stays.
-        private void extend(long view, int depth, int spent, long row) {
-            if (depth >= limit || depth >= DEEDS) {
+        private static void extend(Planner self, long view, int depth, int spent, long row) {
+            if (depth >= self.limit || depth >= DEEDS) {
                 return;
             }
+            Stage stage = self.stage;
             for (int i = Stage.FIRST_PLANNED; i < Stage.END_PLANNED; i++) {
                 int deed = stage.deeds[i];
                 int cost = spent + stage.costs[deed >> 6];
-                if (cost >= bestCost || !stage.canDo(view, folk, deed)) {
+                if (cost >= self.bestCost || !stage.canDo(view, self.folk, deed)) {
                     continue;
                 }
-                long after = stage.applied(view, folk, deed);
+                long after = stage.applied(view, self.folk, deed);
                 long longer = row | (long) deed << 9 * depth;
-                measure(after, UNITS);
-                weigh(after, UNITS);
-                int need = folded();
+                self.measure(after, UNITS);
+                self.weigh(after, UNITS);
+                int need = self.folded();
                 if (need == 0) {
-                    bestCost = cost;
-                    best = longer | (long) cost << COST_AT;
-                } else if (need < limit - depth) {
-                    measure(after, stage.costs);
-                    weigh(after, stage.costs);
-                    if (cost + folded() < bestCost) {
-                        extend(after, depth + 1, cost, longer);
+                    self.bestCost = cost;
+                    self.best = longer | (long) cost << COST_AT;
+                } else if (need < self.limit - depth) {
+                    self.measure(after, stage.costs);
+                    self.weigh(after, stage.costs);
+                    if (cost + self.folded() < self.bestCost) {
+                        extend(self, after, depth + 1, cost, longer);
                     }
                 }
             }

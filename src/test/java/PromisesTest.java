@@ -629,6 +629,7 @@ public final class PromisesTest {
         is("TAKE nothing", tale.turn(2, 0, NONE), -2);
         is("TAKE 5", tale.turn(2, 5, NONE), -2);
         is("HIT 4", tale.turn(5, 4, NONE), -2);
+        is("a kind far off", tale.turn(64 + 1, 1, NONE), -2);
         is("nothing is over", tale.count(0), 0);
         for (int t = 1; t <= 60; t++) {
             is("turn", pause(tale), t);
@@ -649,6 +650,8 @@ public final class PromisesTest {
         is("TAKE", tale.turn(2, 0, NONE), 1);
         is("held", tale.lies(0), 10);
         is("TAKE what is held", tale.turn(2, 0, NONE), -2);
+        is("kind 7 of what is held", tale.turn(7, 0, NONE), -2);
+        is("kind -1 of what is held", tale.turn(-1, 0, NONE), -2);
         is("GIVE to itself", tale.turn(4, 0, 0), -2);
         is("GIVE to one elsewhere", tale.turn(4, 0, 2), -2);
         is("HIT without a weapon", tale.turn(5, 1, NONE), -2);
@@ -703,6 +706,9 @@ public final class PromisesTest {
         is("not hidden", tale.settle(2, 2), NONE);
         is("no such thing", tale.settle(3, 1), NONE);
         is("thing -1", tale.settle(-1, 1), NONE);
+        is("thing 8", tale.settle(8, 1), NONE);
+        is("thing far off", tale.settle(1 << 29, 1), NONE);
+        is("room 8", tale.settle(0, 8 + 2), NONE);
         is("settle", tale.settle(0, 3), 2);
         is("there it lies", tale.lies(0), 3);
         is("acted already", tale.settle(1, 1), NONE);
@@ -726,6 +732,9 @@ public final class PromisesTest {
         is("the stranger", tale.shift(0, 1), NONE);
         is("folk 4", tale.shift(4, 1), NONE);
         is("room 7", tale.shift(3, 7), NONE);
+        is("folk 9", tale.shift(9, 3), NONE);
+        is("folk far off", tale.shift((1 << 29) + 1, 3), NONE);
+        is("room 8", tale.shift(0, 8 + 3), NONE);
         is("shift", tale.shift(1, 3), 3);
         is("there it is", tale.where(1), 3);
         is("and the hidden one is looked for", tale.lies(0), 1);
@@ -921,6 +930,12 @@ public final class PromisesTest {
         law(other, "nh...");
         other.begin();
         is("not in two", other.loses(), 3);
+        BentTale told = row();
+        told.person(1, 0);
+        told.thing(0, false);
+        law(told, "rl...,d...,0");
+        told.begin();
+        is("it can tell what is known", told.loses(), 1);
     }
 
     // Promises 24, 25
@@ -1148,6 +1163,9 @@ public final class PromisesTest {
             off[i] += i % 2 == 0 ? 1 : -256;
             is("wrong at " + i, checked(tale, off, 3), i);
         }
+        int[] high = right.clone();
+        high[0] = 1 << 24;
+        is("wrong in the highest byte", checked(tale, high, 3), 0);
         is("one is lacking", checked(tale, right, 2), 8);
         is("all are lacking", checked(tale, right, 0), 0);
         is("empty, too", tale.count(7), 0);

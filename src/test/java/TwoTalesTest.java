@@ -5,7 +5,9 @@ import java.util.List;
  * Arguments, if any: the first seed and how many tales.
  */
 public final class TwoTalesTest {
-    private static final int TALES = 500;
+    private static final int TALES = 600;
+    private static final int[] WILD = {Integer.MIN_VALUE, Integer.MAX_VALUE, -8, 7, 8, 9, 15, 16, 32, 63, 64, 71, 128, 255,
+        256, 512, 1 << 24, 1 << 28, 1 << 30, (1 << 30) + 1, Integer.MIN_VALUE + 1, -64, -512};
 
     private final StringBuilder calls = new StringBuilder();
     private final BentTale bent = new BentTale();
@@ -42,8 +44,12 @@ public final class TwoTalesTest {
         return (int) ((lot >>> 33) % n);
     }
 
+    /** Mostly one of those from one to the other, but now and then one just beside them, or a wild one. */
     private int odd(int from, int to) {
-        return any(40) == 0 ? from - 2 + any(to - from + 5) : from + any(to - from + 1);
+        if (any(30) > 0) {
+            return from + any(to - from + 1);
+        }
+        return any(2) == 0 ? from - 2 + any(to - from + 5) : WILD[any(WILD.length)];
     }
 
     private void same(String call, int got, int due) {
