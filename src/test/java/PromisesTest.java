@@ -35,6 +35,8 @@ public final class PromisesTest {
         lawsUnseen();
         keptWhatever();
         answersBySettling();
+        answersOfLeastPrice(false);
+        answersOfLeastPrice(true);
         losing();
         otherwiseAndNeedless();
         madeStrangers();
@@ -302,7 +304,8 @@ public final class PromisesTest {
             "o4 -3001", "o35 -3002", "o3 -1002", "h0h0 -1002", "h0& -1003", "h0| -1003", "&h0 -1000", "(h0 -1003",
             "(h0)h0 -1004", "h0) -1002", "() -1001", "! -1001", "!) -1001", "((((((h0)))))) 0", "(((((((h0 -5006",
             "!!!!!!h0 0", "!!!!!!!h0 -5006", "((((((!h0 -5006", "!h0&((((((h0)))))) 0", "!(h0)&!((((((h0)))))) -5012",
-            "h0  -1002", "H0 -1000", "h0||h1 -1003", "(h5) -3002", "i9x -3001", "((((((( -5006", "((((((x -1006"
+            "h0  -1002", "H0 -1000", "h0||h1 -1003", "(h5) -3002", "i9x -3001", "((((((( -5006", "((((((x -1006",
+            "h0|h5 -3004", "h0&h5 -3004", "h0|(h5) -3005", "!h5 -3002", "h0&!(i0|i7) -3009"
         };
         int p = 1;
         for (String fault : faults) {
@@ -492,7 +495,8 @@ public final class PromisesTest {
         tale.believe(1, false, 1, 3);
         tale.believe(1, true, 0, 1);
         String[][] texts = {
-            {"h0", "i4", "l13"}, {"d0", "h1", "!o10|!l13"}, {"o00|i5", "!i0&(h0|i4)&!!!d2", "!!d3|!!h4"}
+            {"h0", "i4", "l13"}, {"d0", "h1", "!o10|!l13"}, {"o00|i5", "!i0&(h0|i4)&!!!d2", "!!d3|!!h4"},
+            {"!(h0|d3)", "!(d3|h0)", "!(h0&i4)"}, {"!(h0&d3)", "!(d3&h0)", "!(d3|i5)&d2"}
         };
         is("holds ahead", tale.holds(1, 0), NONE);
         for (int k = 0; k < 3; k++) {
@@ -507,8 +511,8 @@ public final class PromisesTest {
         is("the stranger", tale.holds(0, 0), NONE);
         is("folk 4", tale.holds(4, 0), NONE);
         is("folk 2 has none", tale.holds(2, 0), NONE);
-        int[][] due = {{}, {0, 0, 0}, {0, 1, 0}};
-        for (int row = 1; row < 3; row++) {
+        int[][] due = {{}, {0, 0, 0}, {0, 1, 0}, {0, 0, 0}, {1, 1, 0}};
+        for (int row = 1; row < 5; row++) {
             BentTale other = row();
             other.thing(11, false);
             other.thing(0, false);
@@ -912,6 +916,37 @@ public final class PromisesTest {
         pause(tale);
         pause(tale);
         is("it was not found", tale.broken(0), 3);
+    }
+
+    // Promise 23: a folk that goes by 3 and 4 to 5 shall take something; a thing can be settled in its way, or it can
+    // be shifted to another one.
+    private static void answersOfLeastPrice(boolean settledBefore) {
+        BentTale tale = new BentTale();
+        tale.door(1, 3);
+        tale.door(3, 4);
+        tale.door(4, 5);
+        tale.door(4, 2);
+        int[] rooms = {6, 1, 6, 6};
+        for (int p = 0; p < 4; p++) {
+            tale.person(p, rooms[p]);
+        }
+        tale.hidden(32 + 1, false);
+        tale.thing(2, false);
+        tale.hidden(4 + 1, false);
+        wish(tale, 1, 5, "h0|h1");
+        wish(tale, 1, 3, "i5");
+        law(tale, "et1..,4");
+        tale.begin();
+        pause(tale);
+        if (settledBefore) {
+            is("settled before", tale.settle(2, 0), 2);
+        }
+        pause(tale);
+        is("it is in its way", tale.where(1), 4);
+        is("which is cheaper", tale.answer(2, 0), settledBefore ? 2 : 1);
+        is("whom or what", tale.answer(2, 1), settledBefore ? 1 : 0);
+        is("where", tale.answer(2, 2), settledBefore ? 2 : 5);
+        is("price", tale.answer(2, 3), settledBefore ? 3 : 2);
     }
 
     // Promise 22
