@@ -171,7 +171,7 @@ public final class BentTale {
     }
 
     public int plan(int p, int k, int what) {
-        if (what < NONE || what > 3 * Planner.DEEDS || !canWish(p, k)) {
+        if (!canWish(p, k)) {
             return NONE;
         }
         long plan = planner.planOf(now.minds[p], p, k);
@@ -386,10 +386,10 @@ public final class BentTale {
         if (what == 0) {
             return many;
         }
-        int i = (what - 1) / 3;
-        if (i >= many) {
+        if (what < NONE || what > 3 * many) {
             return -3;
         }
+        int i = (what - 1) / 3;
         int told = partOf((int) (plan >>> 9 * i), (what - 1) % 3);
         return told == NONE ? -3 : told;
     }

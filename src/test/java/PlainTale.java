@@ -916,7 +916,7 @@ final class PlainTale {
     }
 
     int plan(int p, int k, int what) {
-        if (holds(p, k) != 0 || !in(what, NONE, 12)) {
+        if (holds(p, k) != 0) {
             return NONE;
         }
         int[] plan = planFor(mindOf(now, p), k);
@@ -929,7 +929,7 @@ final class PlainTale {
         if (what == 0) {
             return plan.length / 3;
         }
-        return what >= plan.length || plan[what] == NONE ? -3 : plan[what];
+        return what < 0 || what >= plan.length || plan[what] == NONE ? -3 : plan[what];
     }
 
     int wanted(int p) {

@@ -23,6 +23,8 @@ public final class PromisesTest {
         telling();
         wishesHold();
         plans();
+        plansAskedForNothing();
+        plansOfTheDead();
         plansOfLeastPrice();
         wantedOnes();
         turns();
@@ -545,21 +547,70 @@ public final class PromisesTest {
         for (int i = 0; i < 12; i++) {
             is("plan " + (i + 1), tale.plan(1, 0, i + 1), due[i]);
         }
-        is("plan what 13", tale.plan(1, 0, 13), NONE);
-        is("plan what -2", tale.plan(1, 0, -2), NONE);
         is("it holds", tale.plan(1, 1, 0), NONE);
         is("five deeds are too many", tale.plan(1, 2, 0), -2);
         is("and prices of none", tale.plan(1, 2, NONE), -2);
         is("no such wish", tale.plan(1, 3, 0), NONE);
         is("no such folk", tale.plan(0, 0, 0), NONE);
         is("none of 2", tale.plan(2, 0, 0), NONE);
-        is("a wrong what goes ahead of there being none", tale.plan(1, 2, 13), NONE);
         pause(tale);
         pause(tale);
         is("fewer are left", tale.plan(1, 0, 0), 2);
         is("none such", tale.plan(1, 0, 7), -3);
         pause(tale);
         is("nobody is there, as it sees", tale.plan(1, 0, 0), -2);
+    }
+
+    // Promise 14: a what that names nothing of a plan is told behind all else
+    private static void plansAskedForNothing() {
+        BentTale tale = row();
+        tale.person(1, 1);
+        tale.person(2, 6);
+        tale.thing(11, true);
+        wish(tale, 1, 1, "i4");
+        wish(tale, 1, 1, "i0&d3");
+        wish(tale, 1, 1, "i1");
+        wish(tale, 3, 1, "i5");
+        int[] whats = {Integer.MIN_VALUE, Integer.MIN_VALUE + 1, -1000, -4, -3, -2, 13, 14, 15, 1000,
+            Integer.MAX_VALUE - 1, Integer.MAX_VALUE};
+        for (int what : whats) {
+            is("plan ahead, what " + what, tale.plan(1, 0, what), NONE);
+        }
+        tale.begin();
+        is("there is a plan", tale.plan(1, 0, 0), 3);
+        is("there is none", tale.plan(1, 1, 0), -2);
+        is("there is a plan of one deed", tale.plan(3, 0, 0), 1);
+        for (int what : whats) {
+            is("with a plan, what " + what, tale.plan(1, 0, what), -3);
+            is("with a plan of one deed, what " + what, tale.plan(3, 0, what), -3);
+            is("without one, what " + what, tale.plan(1, 1, what), -2);
+            is("of what holds, what " + what, tale.plan(1, 2, what), NONE);
+            is("of no wish, what " + what, tale.plan(1, 3, what), NONE);
+            is("of wish -1, what " + what, tale.plan(1, -1, what), NONE);
+            is("of a folk without wishes, what " + what, tale.plan(2, 0, what), NONE);
+            is("of the stranger, what " + what, tale.plan(0, 0, what), NONE);
+            is("of no person, what " + what, tale.plan(4, 0, what), NONE);
+        }
+        for (int what = 10; what <= 12; what++) {
+            is("a fourth deed that this plan has not, what " + what, tale.plan(1, 0, what), -3);
+        }
+    }
+
+    // Promise 14: of a dead folk nothing is told, whatever is asked
+    private static void plansOfTheDead() {
+        BentTale tale = row();
+        tale.thing(10, true);
+        tale.person(1, 0);
+        wish(tale, 1, 1, "i1");
+        tale.begin();
+        is("one deed", tale.plan(1, 0, 0), 1);
+        is("no second one", tale.plan(1, 0, 4), -3);
+        is("no fifth one", tale.plan(1, 0, 13), -3);
+        is("below NONE", tale.plan(1, 0, -2), -3);
+        tale.turn(5, 1, NONE);
+        for (int what : new int[] {Integer.MIN_VALUE, -2, NONE, 0, 1, 12, 13, Integer.MAX_VALUE}) {
+            is("of a dead folk, what " + what, tale.plan(1, 0, what), NONE);
+        }
     }
 
     // Promise 14: which of several plans

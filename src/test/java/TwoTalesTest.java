@@ -360,7 +360,7 @@ public final class TwoTalesTest {
             }
             for (int k = -1; k < 4; k++) {
                 same("holds(" + p + ", " + k + ")", bent.holds(p, k), plain.holds(p, k));
-                for (int what = -2; what < 14; what++) {
+                for (int what = -3; what < 16; what++) {
                     same("plan(" + p + ", " + k + ", " + what + ")", bent.plan(p, k, what), plain.plan(p, k, what));
                 }
             }
