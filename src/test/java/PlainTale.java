@@ -7,7 +7,7 @@ import java.util.Map;
  * The same tale told a second time, as slowly and plainly as the document's words: plans are found among all rows of
  * deeds, laws are judged on the list of all events, nothing is left out. Tests compare BentTale with it.
  */
-final class PlainTale {
+final class PlainTale implements Tale {
     static final int NONE = -1;
     static final int HIDDEN = 20;
     static final int DEAD = 7;
@@ -125,7 +125,8 @@ final class PlainTale {
 
     // ---- what is told ahead
 
-    boolean door(int a, int b) {
+    @Override
+    public boolean door(int a, int b) {
         if (begun() || !in(a, 0, 6) || !in(b, 0, 6) || a == b || doors[a][b]) {
             return false;
         }
@@ -134,7 +135,8 @@ final class PlainTale {
         return true;
     }
 
-    boolean person(int p, int room) {
+    @Override
+    public boolean person(int p, int room) {
         if (begun() || !in(p, 0, 3) || !in(room, 0, 6)) {
             return false;
         }
@@ -142,7 +144,8 @@ final class PlainTale {
         return true;
     }
 
-    int thing(int place, boolean weapon) {
+    @Override
+    public int thing(int place, boolean weapon) {
         if (begun() || !in(place, 0, 6) && !in(place, 10, 13) || weapons.size() == 5) {
             return NONE;
         }
@@ -151,7 +154,8 @@ final class PlainTale {
         return weapons.size() - 1;
     }
 
-    int hidden(int set, boolean weapon) {
+    @Override
+    public int hidden(int set, boolean weapon) {
         if (begun() || !in(set, 0, 127) || Integer.bitCount(set) < 2 || weapons.size() == 5) {
             return NONE;
         }
@@ -161,7 +165,8 @@ final class PlainTale {
         return weapons.size() - 1;
     }
 
-    boolean believe(int p, boolean person, int i, int place) {
+    @Override
+    public boolean believe(int p, boolean person, int i, int place) {
         if (begun() || !in(p, 1, 3)) {
             return false;
         }
@@ -179,7 +184,8 @@ final class PlainTale {
         return true;
     }
 
-    boolean price(int kind, int n) {
+    @Override
+    public boolean price(int kind, int n) {
         if (begun() || !in(kind, 1, 5) || !in(n, 1, 9)) {
             return false;
         }
@@ -187,7 +193,8 @@ final class PlainTale {
         return true;
     }
 
-    int feed(int a, int b, int c, int d, int e) {
+    @Override
+    public int feed(int a, int b, int c, int d, int e) {
         if (tape.length() > 380) {
             return NONE;
         }
@@ -284,7 +291,8 @@ final class PlainTale {
         throw new Fault(1, at - 1);
     }
 
-    int wish(int p, int weight, int n) {
+    @Override
+    public int wish(int p, int weight, int n) {
         if (begun() || !in(p, 1, 3) || !in(weight, 1, 9) || !in(n, 1, 40) || wishes.get(p).size() == 3
             || n > tape.length()) {
             return NONE;
@@ -366,7 +374,8 @@ final class PlainTale {
         return new String[] {"" + letter, e, f, n};
     }
 
-    int law(int n) {
+    @Override
+    public int law(int n) {
         if (begun() || !in(n, 1, 60) || laws.size() == 6 || n > tape.length()) {
             return NONE;
         }
@@ -390,7 +399,8 @@ final class PlainTale {
         }
     }
 
-    boolean begin() {
+    @Override
+    public boolean begin() {
         if (begun()) {
             return false;
         }
@@ -814,7 +824,8 @@ final class PlainTale {
         return false;
     }
 
-    int keeps(int i) {
+    @Override
+    public int keeps(int i) {
         if (!in(i, 0, laws.size() - 1)) {
             return NONE;
         }
@@ -825,7 +836,8 @@ final class PlainTale {
         return brokenTurn(now, i) != NONE ? 2 : owed ? 1 : 0;
     }
 
-    int broken(int i) {
+    @Override
+    public int broken(int i) {
         return in(i, 0, laws.size() - 1) ? brokenTurn(now, i) : NONE;
     }
 
@@ -877,15 +889,18 @@ final class PlainTale {
         return answersFound.get(key);
     }
 
-    int kept(int turns) {
+    @Override
+    public int kept(int turns) {
         return !begun() || !in(turns, 0, 2) ? NONE : answerNow(turns) != null ? 1 : 0;
     }
 
-    int loses() {
+    @Override
+    public int loses() {
         return !begun() ? NONE : kept(0) == 0 ? 0 : kept(1) == 0 ? 1 : kept(2) == 0 ? 2 : 3;
     }
 
-    int answer(int turns, int what) {
+    @Override
+    public int answer(int turns, int what) {
         if (!begun() || !in(turns, 1, 2) || !in(what, 0, 3)) {
             return NONE;
         }
@@ -894,7 +909,8 @@ final class PlainTale {
 
     // ---- calls while the tale goes
 
-    int believes(int p, boolean person, int i) {
+    @Override
+    public int believes(int p, boolean person, int i) {
         if (!in(p, 1, 3) || !in(i, 0, person ? 3 : weapons.size() - 1)) {
             return NONE;
         }
@@ -908,14 +924,16 @@ final class PlainTale {
         return begun() && in(p, 1, 3) && now.room[p] != DEAD;
     }
 
-    int holds(int p, int k) {
+    @Override
+    public int holds(int p, int k) {
         if (!alive(p) || !in(k, 0, wishes.get(p).size() - 1)) {
             return NONE;
         }
         return wishes.get(p).get(k).holds(mindOf(now, p)) ? 1 : 0;
     }
 
-    int plan(int p, int k, int what) {
+    @Override
+    public int plan(int p, int k, int what) {
         if (holds(p, k) != 0) {
             return NONE;
         }
@@ -932,7 +950,8 @@ final class PlainTale {
         return what < 0 || what >= plan.length || plan[what] == NONE ? -3 : plan[what];
     }
 
-    int wanted(int p) {
+    @Override
+    public int wanted(int p) {
         if (!alive(p)) {
             return NONE;
         }
@@ -940,7 +959,8 @@ final class PlainTale {
         return k == NONE ? -2 : k;
     }
 
-    int turn(int kind, int x, int y) {
+    @Override
+    public int turn(int kind, int x, int y) {
         if (!begun() || now.turn == 60) {
             return NONE;
         }
@@ -952,11 +972,13 @@ final class PlainTale {
         return now.turn;
     }
 
-    int settle(int x, int room) {
+    @Override
+    public int settle(int x, int room) {
         return push(1, x, room);
     }
 
-    int shift(int p, int room) {
+    @Override
+    public int shift(int p, int room) {
         return push(2, p, room);
     }
 
@@ -1000,7 +1022,8 @@ final class PlainTale {
         return changed;
     }
 
-    int otherwise(int t) {
+    @Override
+    public int otherwise(int t) {
         if (!in(t, 1, now.turn)) {
             return NONE;
         }
@@ -1008,7 +1031,8 @@ final class PlainTale {
         return changes(rows, 1) + changes(rows, 2) + changes(rows, 3);
     }
 
-    int needless(int p) {
+    @Override
+    public int needless(int p) {
         if (!begun() || !in(p, 1, 3)) {
             return NONE;
         }
@@ -1020,7 +1044,8 @@ final class PlainTale {
         return changed == 0 ? 1 : 0;
     }
 
-    int made(int sort, int seed, int turns, int what) {
+    @Override
+    public int made(int sort, int seed, int turns, int what) {
         if (!begun() || !in(sort, 0, 2) || !in(seed, 0, 65535) || !in(turns, 1, 20) || !in(what, 0, 2)) {
             return NONE;
         }
@@ -1044,7 +1069,8 @@ final class PlainTale {
         return what == 0 ? broken : what == 1 ? dead : s.events.size() - now.events.size();
     }
 
-    int surprise(int t) {
+    @Override
+    public int surprise(int t) {
         if (!in(t, 1, now.turn)) {
             return NONE;
         }
@@ -1065,7 +1091,8 @@ final class PlainTale {
         return surprised;
     }
 
-    int did(int t, int p, int what) {
+    @Override
+    public int did(int t, int p, int what) {
         if (!in(t, 1, now.turn) || !in(p, 0, 3) || !in(what, 0, 4) || log.get(t - 1)[p] == null) {
             return NONE;
         }
@@ -1073,7 +1100,8 @@ final class PlainTale {
         return new int[] {d.kind, d.x, d.y, d.kind == 0 ? NONE : d.seen, d.wish}[what];
     }
 
-    int check(int t, int n) {
+    @Override
+    public int check(int t, int n) {
         if (!in(t, 1, now.turn) || n < 0 || n > tape.length() / 16) {
             return -2;
         }
@@ -1096,15 +1124,18 @@ final class PlainTale {
         return due.size() > 4 * n ? 4 * n : NONE;
     }
 
-    int where(int p) {
+    @Override
+    public int where(int p) {
         return in(p, 0, 3) ? now.room[p] : NONE;
     }
 
-    int lies(int x) {
+    @Override
+    public int lies(int x) {
         return in(x, 0, weapons.size() - 1) ? now.place[x] : NONE;
     }
 
-    int count(int what) {
+    @Override
+    public int count(int what) {
         if (in(what, 11, 13)) {
             return wishes.get(what - 10).size();
         }

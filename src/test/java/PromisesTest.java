@@ -1,8 +1,5 @@
 /** Each promise of the document by hand: ordinary calls, the edges that it names, and wrong ones. */
-public final class PromisesTest {
-    private static final int NONE = BentTale.NONE;
-    private static int wrong;
-
+public final class PromisesTest extends ByHand {
     public static void main(String[] args) {
         newObject();
         doors();
@@ -48,61 +45,7 @@ public final class PromisesTest {
         checks();
         places();
         counts();
-        System.out.println(wrong == 0 ? "all promises hold" : wrong + " answers are wrong");
-        if (wrong != 0) {
-            System.exit(1);
-        }
-    }
-
-    private static void is(String what, int got, int due) {
-        if (got != due) {
-            wrong++;
-            System.out.println(what + " answered " + got + ", due is " + due);
-        }
-    }
-
-    private static void yes(String what, boolean got) {
-        is(what, got ? 1 : 0, 1);
-    }
-
-    private static void no(String what, boolean got) {
-        is(what, got ? 1 : 0, 0);
-    }
-
-    private static void feed(BentTale tale, String text) {
-        int[] words = new int[(text.length() + 19) / 20 * 5];
-        for (int i = 0; i < text.length(); i++) {
-            words[i / 4] |= text.charAt(i) << 24 - i % 4 * 8;
-        }
-        for (int w = 0; w < words.length; w += 5) {
-            tale.feed(words[w], words[w + 1], words[w + 2], words[w + 3], words[w + 4]);
-        }
-    }
-
-    private static int wish(BentTale tale, int p, int weight, String text) {
-        feed(tale, text);
-        return tale.wish(p, weight, text.length());
-    }
-
-    private static int law(BentTale tale, String text) {
-        feed(tale, text);
-        return tale.law(text.length());
-    }
-
-    /** Rooms in a row, 0 to 6, the stranger in room 0 and folk out of its way in 4, 5 and 6. */
-    private static BentTale row() {
-        BentTale tale = new BentTale();
-        for (int r = 0; r < 6; r++) {
-            tale.door(r, r + 1);
-        }
-        for (int p = 1; p < 4; p++) {
-            tale.person(p, 3 + p);
-        }
-        return tale;
-    }
-
-    private static int pause(BentTale tale) {
-        return tale.turn(0, NONE, NONE);
+        end("all promises hold");
     }
 
     // Promise 1

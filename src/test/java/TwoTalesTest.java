@@ -6,11 +6,11 @@ import java.util.List;
  */
 public final class TwoTalesTest {
     private static final int TALES = 600;
-    private static final int[] WILD = {Integer.MIN_VALUE, Integer.MAX_VALUE, -8, 7, 8, 9, 15, 16, 32, 63, 64, 71, 128, 255,
-        256, 512, 1 << 24, 1 << 28, 1 << 30, (1 << 30) + 1, Integer.MIN_VALUE + 1, -64, -512};
+    private static final int[] WILD = {Integer.MIN_VALUE, Integer.MAX_VALUE, -8, 7, 8, 9, 15, 16, 32, 63, 64, 71, 128,
+        255, 256, 512, 1 << 24, 1 << 28, 1 << 30, (1 << 30) + 1, Integer.MIN_VALUE + 1, -64, -512};
 
     private final StringBuilder calls = new StringBuilder();
-    private final BentTale bent = new BentTale();
+    private final Tale bent = new LongTale();
     private final PlainTale plain = new PlainTale();
     private final boolean lookFar;
     private long lot;
