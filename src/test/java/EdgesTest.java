@@ -42,6 +42,7 @@ public final class EdgesTest extends ByHand {
         atomsNotKnown();
         plansHaveFourDeeds();
         plansByPrice();
+        plansOfGivingAndLaying();
         plansInOrder();
         plansHitWithWhatTheyWouldHold();
         plansEndWhereTheWishHolds();
@@ -59,13 +60,16 @@ public final class EdgesTest extends ByHand {
         owedAtLast();
         brokenForGood();
         signsOfEvents();
+        signsOfY();
         unseenOnes();
         keptByNone();
+        keptByTelling();
         keptByActs();
         answersByNumbers();
         answersOfLikePrice();
         losesInOneOrTwo();
         otherwiseTheTellerCant();
+        otherwiseTheSameDeeds();
         otherwiseTheDead();
         needlessOnes();
         madeNumbers();
@@ -881,6 +885,17 @@ public final class EdgesTest extends ByHand {
         is("the stranger is there", tale.believes(1, true, 0), 0);
         is("of itself", tale.believes(1, true, 1), 0);
         is("who believed nothing of it", tale.believes(3, false, 0), NONE);
+        BentTale other = row();
+        other.person(1, 0);
+        other.person(2, 0);
+        for (int x = 0; x < 5; x++) {
+            other.thing(6, false);
+            other.believe(1, false, x, 10 + x % 2 * 2);
+        }
+        other.begin();
+        for (int x = 0; x < 5; x++) {
+            is("neither of them holds thing " + x, other.believes(1, false, x), NONE);
+        }
     }
 
     // "each FOLK not DEAD looks about"; "Who is HIT in its ROOM it BELIEVES DEAD"
@@ -1025,6 +1040,11 @@ public final class EdgesTest extends ByHand {
             is("deeds, a HIT for " + row[0], tale.plan(1, 0, 0), row[1]);
             is("prices, a HIT for " + row[0], tale.plan(1, 0, NONE), row[2]);
         }
+        cheapInTwo(1, "i6|h0");
+        cheapInTwo(2, "h0&h1|i5");
+        cheapInTwo(3, "!h2&!h3|i5");
+        cheapInTwo(4, "o22&o23|i5");
+        cheapInTwo(5, "d2&d3|i5");
         BentTale dear = row();
         dear.person(1, 0);
         for (int kind = 1; kind <= 5; kind++) {
@@ -1033,6 +1053,72 @@ public final class EdgesTest extends ByHand {
         wish(dear, 1, 1, "i4");
         dear.begin();
         is("the dearest plan", dear.plan(1, 0, NONE), 36);
+    }
+
+    // Two deeds of a cheap kind go ahead of one dear deed.
+    private static void cheapInTwo(int cheap, String text) {
+        BentTale tale = row();
+        tale.person(2, 4);
+        tale.person(3, 4);
+        tale.thing(4, false);
+        tale.thing(4, false);
+        tale.thing(11, true);
+        tale.thing(11, true);
+        for (int kind = 1; kind <= 5; kind++) {
+            tale.price(kind, kind == cheap ? 1 : 9);
+        }
+        wish(tale, 1, 1, text);
+        tale.begin();
+        is("deeds for " + text, tale.plan(1, 0, 0), 2);
+        is("prices for " + text, tale.plan(1, 0, NONE), 2);
+        is("the first kind for " + text, tale.plan(1, 0, 1), cheap);
+        is("the second kind for " + text, tale.plan(1, 0, 4), cheap);
+    }
+
+    // "GIVE THING x, that it holds, to PERSON y in its ROOM"; "DROP THING x, that it holds: it lies in its ROOM"
+    private static void plansOfGivingAndLaying() {
+        int[][] ways = {{0, 1}, {1, 0}, {2, 3}, {5, 6}, {6, 5}};
+        for (int[] way : ways) {
+            for (int from = 0; from < 2; from++) {
+                BentTale tale = row();
+                tale.person(1, way[0]);
+                tale.person(3, way[0]);
+                tale.person(2, way[from]);
+                tale.thing(way[1], false);
+                tale.believe(1, false, 0, way[1]);
+                tale.believe(1, true, 2, way[from]);
+                wish(tale, 1, 1, "o20");
+                wish(tale, 1, 1, "l0" + way[0]);
+                wish(tale, 1, 1, "o00&o20|d0");
+                tale.begin();
+                is("fetch and give", tale.plan(1, 0, 0), from == 0 ? 4 : 3);
+                is("GIVE at last", tale.plan(1, 0, from == 0 ? 10 : 7), 4);
+                is("to 2", tale.plan(1, 0, from == 0 ? 12 : 9), 2);
+                is("fetch and lay down", tale.plan(1, 1, 0), 4);
+                is("DROP at last", tale.plan(1, 1, 10), 3);
+                is("what can't be", tale.plan(1, 2, 0), -2);
+            }
+            BentTale held = row();
+            held.person(1, way[0]);
+            held.person(2, way[0]);
+            held.thing(12, false);
+            held.thing(11, true);
+            wish(held, 1, 1, "l0" + way[0]);
+            wish(held, 1, 1, "l0" + way[1]);
+            wish(held, 1, 1, "h0");
+            held.begin();
+            is("HIT, and it lies there", held.plan(1, 0, 0), 1);
+            is("HIT, TAKE, GO, DROP", held.plan(1, 1, 0), 4);
+            is("HIT, TAKE", held.plan(1, 2, 0), 2);
+        }
+        BentTale unknown = row();
+        unknown.thing(11, false);
+        unknown.believe(1, true, 3, 5);
+        wish(unknown, 1, 1, "o20");
+        wish(unknown, 1, 1, "o30");
+        unknown.begin();
+        is("it does not know where 2 is", unknown.plan(1, 0, 0), -2);
+        is("but where 3 is", unknown.plan(1, 1, 0), 2);
     }
 
     // "of like ones the least row (DEED by DEED: KIND, then x, then y)"
@@ -1129,6 +1215,18 @@ public final class EdgesTest extends ByHand {
             pause(tale);
             is("went", tale.where(1), due[row] == 0 ? 5 : 3);
             is("for it", tale.did(1, 1, 4), due[row]);
+        }
+        int[][] orders = {{1, 2, 3}, {1, 3, 2}, {2, 1, 3}, {2, 3, 1}, {3, 1, 2}, {3, 2, 1}};
+        for (int[] order : orders) {
+            for (int planless = 3; planless >= 2; planless--) {
+                BentTale tale = row();
+                for (int k = 0; k < 3; k++) {
+                    wish(tale, 1, order[k], order[k] >= planless ? "h" + k : "i" + (3 + 2 * (order[k] % 2)));
+                }
+                tale.begin();
+                int wanted = tale.wanted(1);
+                is("the next one", wanted >= 0 && wanted < 3 ? order[wanted] : wanted, planless - 1);
+            }
         }
         BentTale tale = row();
         wish(tale, 1, 9, "i4");
@@ -1454,6 +1552,32 @@ public final class EdgesTest extends ByHand {
         is("GO has no y that a digit fits", tale.keeps(4), 0);
     }
 
+    private static void signsOfY() {
+        for (int y = 1; y < 4; y++) {
+            BentTale tale = row();
+            for (int p = 1; p < 4; p++) {
+                tale.person(p, 0);
+            }
+            for (int x = 0; x < 5; x++) {
+                tale.thing(10, false);
+            }
+            for (int sign = 1; sign < 4; sign++) {
+                law(tale, "nv0." + sign);
+            }
+            law(tale, "nv..." + "u");
+            law(tale, "nv.0.;nv.1.;nv.2.;nv.3.");
+            law(tale, "nv.4" + y);
+            tale.begin();
+            tale.turn(4, 4, y);
+            for (int sign = 1; sign < 4; sign++) {
+                is("given to " + y + ", not to " + sign, tale.keeps(sign - 1), sign == y ? 2 : 0);
+            }
+            is("it was seen", tale.keeps(3), 0);
+            is("of the other things", tale.keeps(4), 0);
+            is("of this thing", tale.keeps(5), 2);
+        }
+    }
+
     // "behind them, if wanted, u: nobody SAW it"
     private static void unseenOnes() {
         BentTale tale = row();
@@ -1496,6 +1620,22 @@ public final class EdgesTest extends ByHand {
         for (int what = 0; what < 4; what++) {
             is("none, what " + what, tale.answer(1, what), due[what]);
             is("none for two, what " + what, tale.answer(2, what), due[what]);
+        }
+    }
+
+    // "whatever DEED the STRANGER does", also one that changes nothing that is
+    private static void keptByTelling() {
+        String[] laws = {"nl...", "ng1..", "nl02.", "al00.,g1..", "el...,1"};
+        int[] due = {1, 1, 3, 1, 1};
+        for (int i = 0; i < laws.length; i++) {
+            BentTale tale = row();
+            tale.person(0, 4);
+            tale.thing(11, false);
+            tale.thing(3, false);
+            wish(tale, 1, 1, "h1");
+            law(tale, laws[i]);
+            tale.begin();
+            is("by what the stranger can tell: " + laws[i], tale.loses(), due[i]);
         }
     }
 
@@ -1668,6 +1808,33 @@ public final class EdgesTest extends ByHand {
         other.turn(1, 1, NONE);
         is("it would have taken it itself", other.otherwise(1), 1);
         is("it would not have got it", other.otherwise(2), 0);
+    }
+
+    // "but else doing the same DEEDS"
+    private static void otherwiseTheSameDeeds() {
+        for (int y = 1; y < 4; y++) {
+            BentTale tale = row();
+            for (int p = 1; p < 4; p++) {
+                tale.person(p, 0);
+                wish(tale, p, 1, "h1&i1");
+            }
+            tale.thing(10, false);
+            tale.thing(10, false);
+            tale.begin();
+            pause(tale);
+            tale.turn(4, 1, y);
+            tale.turn(4, 0, y % 3 + 1);
+            tale.turn(1, 1, NONE);
+            is("it went with what was given", tale.did(2, y, 0), 1);
+            is("but for a WAIT all is the same", tale.otherwise(1), 0);
+            is("but for the GIVE it would not have gone", tale.otherwise(2), 1);
+            is("the other thing is no matter", tale.otherwise(3), 0);
+            is("nor is the GO", tale.otherwise(4), 0);
+            is("y is told", tale.did(2, 0, 2), y);
+            for (int what : new int[] {LEAST, -2, -1, 5, 6, GREATEST}) {
+                is("of a GIVE, what " + what, tale.did(2, 0, what), NONE);
+            }
+        }
     }
 
     // "(or none being DEAD)"
