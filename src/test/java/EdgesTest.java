@@ -70,6 +70,7 @@ public final class EdgesTest extends ByHand {
         losesInOneOrTwo();
         otherwiseTheTellerCant();
         otherwiseTheSameDeeds();
+        otherwiseWhatCantBeDone();
         otherwiseTheDead();
         needlessOnes();
         madeNumbers();
@@ -80,6 +81,7 @@ public final class EdgesTest extends ByHand {
         checkOfManyNumbers();
         checkOfTheDead();
         countsOfNothing();
+        talesApart();
         end("all edges hold");
     }
 
@@ -1837,6 +1839,34 @@ public final class EdgesTest extends ByHand {
         }
     }
 
+    // "(WAITING, too, where one can't be done)"
+    private static void otherwiseWhatCantBeDone() {
+        BentTale tale = row();
+        tale.person(1, 2);
+        tale.thing(10, false);
+        wish(tale, 1, 1, "o00&i3");
+        tale.begin();
+        tale.turn(1, 1, NONE);
+        tale.turn(1, 2, NONE);
+        is("it saw the stranger, and went", tale.did(2, 1, 0), 1);
+        pause(tale);
+        is("from room 0 the stranger can't GO to 2", tale.otherwise(1), 1);
+        is("nor does it come, if it waits then", tale.otherwise(2), 1);
+        is("it waited", tale.otherwise(3), 0);
+        BentTale dropped = row();
+        dropped.person(1, 1);
+        dropped.thing(0, false);
+        wish(dropped, 1, 1, "h0");
+        dropped.begin();
+        dropped.turn(2, 0, NONE);
+        dropped.turn(1, 1, NONE);
+        dropped.turn(3, 0, NONE);
+        is("it takes what was dropped", dropped.lies(0), 11);
+        is("what was not taken is not dropped", dropped.otherwise(1), 1);
+        is("nor dropped elsewhere found", dropped.otherwise(2), 1);
+        is("nor taken when it is held", dropped.otherwise(3), 1);
+    }
+
     // "(or none being DEAD)"
     private static void otherwiseTheDead() {
         BentTale tale = row();
@@ -2102,5 +2132,39 @@ public final class EdgesTest extends ByHand {
             is("the wishes", tale.count(11) + tale.count(12) + tale.count(13), 0);
             tale.begin();
         }
+    }
+
+    // "All memory is the tale's own"
+    private static void talesApart() {
+        BentTale one = row();
+        BentTale other = row();
+        one.thing(0, false);
+        one.person(1, 1);
+        one.believe(1, false, 0, 0);
+        one.price(1, 5);
+        wish(one, 1, 1, "h0");
+        law(one, "nt...");
+        feed(one, "x");
+        wish(other, 1, 2, "i2");
+        yes("one begins", one.begin());
+        is("the other has not", other.count(1), 0);
+        is("no thing there", other.lies(0), NONE);
+        is("no law there", other.keeps(0), NONE);
+        is("no bytes there", other.count(7), 0);
+        yes("the other begins", other.begin());
+        is("one plans", one.plan(1, 0, NONE), 6);
+        is("the other plans", other.plan(1, 0, NONE), 2);
+        pause(one);
+        is("no turn there", other.count(0), 0);
+        pause(other);
+        pause(one);
+        is("one is broken", one.broken(0), 2);
+        is("one is there", one.where(1), 0);
+        is("the other is not", other.where(1), 3);
+        is("the other goes on", other.wanted(1), 0);
+        is("a shift there", other.shift(1, 4), 3);
+        is("none here", one.count(4), 0);
+        is("told of the one", one.did(2, 1, 0), 2);
+        is("told of the other", other.did(2, 1, 0), NONE);
     }
 }
