@@ -39,6 +39,7 @@ public final class EdgesTest extends ByHand {
         lookingAtWhatIsNotSo();
         theDead();
         strangerDead();
+        deadAmongTheDead();
         atomsNotKnown();
         plansHaveFourDeeds();
         plansByPrice();
@@ -64,7 +65,9 @@ public final class EdgesTest extends ByHand {
         unseenOnes();
         keptByNone();
         keptByTelling();
+        keptByEachClause();
         keptByActs();
+        keptByNoRoomBeyond();
         answersByNumbers();
         answersOfLikePrice();
         losesInOneOrTwo();
@@ -963,6 +966,35 @@ public final class EdgesTest extends ByHand {
         is("cruel it waits", tale.made(2, 4711, 20, 1), 1);
     }
 
+    // "y, and x of HIT: another PERSON, not DEAD", and the DEAD are in no ROOM, so in none together
+    private static void deadAmongTheDead() {
+        BentTale tale = row();
+        tale.person(1, 0);
+        tale.person(2, 0);
+        tale.thing(11, true);
+        tale.thing(10, true);
+        tale.thing(12, true);
+        wish(tale, 1, 1, "d0&d2");
+        tale.begin();
+        is("one is hit", pause(tale), 1);
+        is("the other is hit", pause(tale), 2);
+        is("both are DEAD", tale.where(0) + tale.where(2), 14);
+        for (int x = 0; x < 3; x++) {
+            for (int y = 0; y < 4; y++) {
+                is("the DEAD tell nobody", tale.turn(6, x, y), -2);
+                is("the DEAD give nothing", tale.turn(4, x, y), -2);
+            }
+        }
+        for (int y = 0; y < 4; y++) {
+            is("the DEAD hit nobody", tale.turn(5, y, NONE), -2);
+        }
+        for (int seed = 0; seed < 20; seed++) {
+            is("mad it waits, seed " + seed, tale.made(1, seed, 20, 2), 0);
+            is("cruel it waits, seed " + seed, tale.made(2, seed, 20, 2), 0);
+        }
+        is("two TURNS are over", tale.count(0), 2);
+    }
+
     // "By BELIEFS an ATOM holds if it is BELIEVED so"
     private static void atomsNotKnown() {
         String[] texts = {"h0", "l06", "o20", "d2", "l00", "o10", "h4", "l46", "o04"};
@@ -1639,6 +1671,62 @@ public final class EdgesTest extends ByHand {
             tale.begin();
             is("by what the stranger can tell: " + laws[i], tale.loses(), due[i]);
         }
+    }
+
+    // "LAWS OF THE TALE 0 to 5", "CLAUSES (4 at most)": each of them is looked at, the last of the last, too
+    private static void keptByEachClause() {
+        for (int i = 0; i < 6; i++) {
+            for (int c = 0; c < 4; c++) {
+                String which = "clause " + c + " of law " + i;
+                BentTale goes = withClause(i, c, "rg0..,t0..,1");
+                is("none is owed: " + which, goes.keeps(i), 0);
+                goes.turn(1, 1, NONE);
+                is("owed: " + which, goes.keeps(i), 1);
+                is("by waiting: " + which, goes.made(0, 0, 1, 0), 1);
+                is("by waiting, too: " + which, goes.kept(1), 0);
+                is("by what is played anew: " + which, goes.otherwise(1), 0);
+                is("still owed: " + which, goes.keeps(i), 1);
+                pause(goes);
+                is("broken: " + which, goes.broken(i), 2);
+                BentTale tells = withClause(i, c, "rl0..,g0..,0");
+                is("by telling what is known: " + which, tells.loses(), 1);
+                is("not by waiting: " + which, tells.made(0, 0, 20, 0), NONE);
+            }
+        }
+    }
+
+    /** Six laws of four clauses, all but one of them of what never comes; the stranger is with one folk and a thing. */
+    private static BentTale withClause(int i, int c, String clause) {
+        BentTale tale = row();
+        tale.person(2, 0);
+        tale.thing(0, false);
+        for (int j = 0; j < 6; j++) {
+            StringBuilder text = new StringBuilder();
+            for (int d = 0; d < 4; d++) {
+                text.append(d == 0 ? "" : ";").append(j == i && d == c ? clause : "nh666");
+            }
+            is("law " + j, law(tale, text.toString()), j);
+        }
+        tale.begin();
+        return tale;
+    }
+
+    // "SHIFT a FOLK not DEAD by a DOOR to another ROOM": there is none beyond 6 by which a law could be kept
+    private static void keptByNoRoomBeyond() {
+        BentTale tale = new BentTale();
+        int[] rooms = {6, 0, 5, 5};
+        for (int p = 0; p < 4; p++) {
+            tale.person(p, rooms[p]);
+        }
+        tale.door(0, 1);
+        tale.door(1, 2);
+        tale.thing(0, false);
+        wish(tale, 1, 1, "h0&i2");
+        law(tale, "ng1..");
+        tale.begin();
+        is("it takes", pause(tale), 1);
+        is("it will go, SHIFTED or not", tale.kept(1), 0);
+        is("no answer", tale.answer(1, 0), -2);
     }
 
     // "(If the teller acted already behind this TURN: none. Ahead of the first TURN: none.)"
